@@ -324,7 +324,7 @@ public final class PackDrawer {
         }
 
         void append(int v) {
-            if (!isFull()) {
+            if (count < bytes.length) {
                 bytes[count] = v;
                 count++;
             }
@@ -360,6 +360,7 @@ public final class PackDrawer {
         // The bytes of the open packs, the outermost one's first. An inner pack's bytes begin
         // where the outer one's next byte will stand: so they lie in place when it gives them.
         private final int[] row = new int[MOST_HELD];
+        private int top;
         private int outputBound;
         private int heldBound;
         private int stepsBound;
@@ -376,6 +377,7 @@ public final class PackDrawer {
             outputBound = mostOutput;
             heldBound = mostHeldAtOnce;
             stepsBound = mostSteps;
+            top = 0;
             kind = SOUND;
             place = NONE;
             steps = 0;
@@ -416,31 +418,43 @@ public final class PackDrawer {
             return true;
         }
 
-        /** How many bytes more the bounds let a pack give. */
-        int room(boolean outermost) {
-            int inner = Math.min(stepsBound - steps, heldBound - held);
-            return outermost ? Math.min(inner, outputBound - output) : inner;
+        /** How many of so many bytes may be given; they are charged, and the first that may not is the fault. */
+        int ask(int count, int itemPlace, boolean outermost) {
+            int allowed = Math.min(count, Math.min(stepsBound - steps, heldBound - held));
+            if (outermost) {
+                allowed = Math.min(allowed, outputBound - output);
+            }
+            charge(allowed, outermost);
+            if (allowed < count) {
+                fail(tightBound(), itemPlace);
+            }
+            return allowed;
         }
 
-        /** Which bound refuses the next byte, where there is no room for one. */
-        int tightBound() {
+        /** Which bound refuses the next byte, where one of them does. */
+        private int tightBound() {
             if (steps >= stepsBound) {
                 return STEPS;
             }
             return held >= heldBound ? HELD : OUTPUT;
         }
 
-        void charge(int count, boolean outermost) {
+        private void charge(int count, boolean outermost) {
             steps += count;
             held += count;
-            mostHeld = Math.max(mostHeld, held);
+            if (held > mostHeld) {
+                mostHeld = held;
+            }
             if (outermost) {
                 output += count;
             }
         }
 
-        /** One byte is charged, or the first bound that is in its way refuses it. */
-        boolean chargeOne(int itemPlace, boolean outermost) {
+        /** One byte is given, or the first bound that is in its way refuses it; behind a fault nothing is given. */
+        void give(int v, int itemPlace, boolean outermost) {
+            if (kind != SOUND) {
+                return;
+            }
             if (steps >= stepsBound) {
                 fail(STEPS, itemPlace);
             } else if (held >= heldBound) {
@@ -449,29 +463,29 @@ public final class PackDrawer {
                 fail(OUTPUT, itemPlace);
             } else {
                 charge(1, outermost);
-                return true;
+                push(v);
             }
-            return false;
         }
 
         void release(int count) {
             held -= count;
         }
 
+        void push(int v) {
+            if (top < row.length) {
+                row[top] = v;
+                top++;
+            }
+        }
+
         int byteAt(int i) {
             return i >= 0 && i < row.length ? row[i] : 0;
         }
 
-        void change(int i, int v) {
-            if (i >= 0 && i < row.length) {
-                row[i] = v;
-            }
-        }
-
-        int sum(int from, int to) {
+        int sumFrom(int base) {
             int sum = 0;
-            for (int i = from; i < to; i++) {
-                sum += byteAt(i);
+            for (int i = Math.max(base, 0); i < top && i < row.length; i++) {
+                sum += row[i];
             }
             return sum & LOW_BYTE;
         }
@@ -493,7 +507,11 @@ public final class PackDrawer {
         private final int[] origin = new int[MOST_DEEP + 1];
         private int depth;
         private int next;
-        private int top;
+        // Of the item that is read: the place of the first AGAIN ahead of it, or its own; its place;
+        // and where what it gives begins in the account's row.
+        private int first;
+        private int place;
+        private int start;
 
         AheadReader(Stream read, Account kept) {
             stream = read;
@@ -505,7 +523,6 @@ public final class PackDrawer {
             account.start(output, held, steps);
             depth = 0;
             next = 0;
-            top = 0;
             enterPack(stream.count(), stream.count(), 0);
             // Each turn reads a byte or more, or ends all.
             for (int turn = 0; turn <= MOST_BYTES && depth > 0 && !account.failed(); turn++) {
@@ -519,7 +536,7 @@ public final class PackDrawer {
                 return;
             }
             depth++;
-            base[depth] = top;
+            base[depth] = account.top;
             end[depth] = packEnd;
             blamed[depth] = blamedPlace;
             origin[depth] = originPlace;
@@ -531,7 +548,7 @@ public final class PackDrawer {
         }
 
         private void readItem() {
-            int first = next;
+            first = next;
             int t = beginItem();
             for (int i = 0; i < MOST_BYTES && sortOf(t) == AGAIN_ITEM; i++) {
                 t = beginItem();
@@ -539,22 +556,22 @@ public final class PackDrawer {
             if (account.failed()) {
                 return;
             }
-            int place = next - 1;
-            int start = top;
+            place = next - 1;
+            start = account.top;
             switch (sortOf(t)) {
                 case END_ITEM:
-                    readEnd(first, place);
+                    readEnd();
                     break;
                 case INNER_ITEM:
-                    readInner(first, place);
+                    readInner();
                     break;
                 case COPY_ITEM:
-                    readCopy(t, place);
-                    giveAgain(first, place, start);
+                    readCopy(t);
+                    giveAgain();
                     break;
                 default:
-                    readRaw(t, place);
-                    giveAgain(first, place, start);
+                    readRaw(t);
+                    giveAgain();
                     break;
             }
         }
@@ -577,7 +594,7 @@ public final class PackDrawer {
             return false;
         }
 
-        private void readRaw(int t, int place) {
+        private void readRaw(int t) {
             int count = t;
             if (t == WIDE_T) {
                 if (!stand(2)) {
@@ -589,20 +606,19 @@ public final class PackDrawer {
             if (!stand(count)) {
                 return;
             }
-            int allowed = ask(count, place);
+            int allowed = account.ask(count, place, isOutermost());
             for (int i = 0; i < allowed; i++) {
-                account.change(top + i, stream.byteAt(next + i));
+                account.push(stream.byteAt(next + i));
             }
-            top += allowed;
             next += count;
         }
 
-        private void readCopy(int t, int place) {
+        private void readCopy(int t) {
             if (!stand(1)) {
                 return;
             }
             int distance = stream.byteAt(next) + 1;
-            if (distance > top - base[depth]) {
+            if (distance > account.top - base[depth]) {
                 account.fail(BACK, next);
                 return;
             }
@@ -610,7 +626,7 @@ public final class PackDrawer {
             giveFromBefore(distance, copyCount(t), place);
         }
 
-        private void readInner(int first, int place) {
+        private void readInner() {
             if (depth >= MOST_DEEP) {
                 account.fail(DEEP, place);
                 return;
@@ -624,10 +640,10 @@ public final class PackDrawer {
                 return;
             }
             next++;
-            enterPack(next + n, place + 1, first);
+            enterPack(next + n, next - 1, first);
         }
 
-        private void readEnd(int first, int place) {
+        private void readEnd() {
             if (place > first) {
                 account.fail(NOT, place);
                 return;
@@ -635,7 +651,7 @@ public final class PackDrawer {
             if (!stand(1)) {
                 return;
             }
-            if (stream.byteAt(next) != account.sum(base[depth], top)) {
+            if (stream.byteAt(next) != account.sumFrom(base[depth])) {
                 account.fail(SUM, next);
                 return;
             }
@@ -644,6 +660,7 @@ public final class PackDrawer {
                 leaveOutermost();
             } else {
                 leaveInner();
+                giveAgain();
             }
         }
 
@@ -654,45 +671,35 @@ public final class PackDrawer {
             depth = 0;
         }
 
+        /** The INNER of the outer pack is the item that is read now, and gives what its pack gave. */
         private void leaveInner() {
             int nPlace = blamed[depth];
             if (next < end[depth]) {
                 account.fail(LIE, nPlace);
                 return;
             }
-            int start = base[depth];
-            int first = origin[depth];
-            int count = top - start;
+            first = origin[depth];
+            place = nPlace - 1;
+            start = base[depth];
             depth--;
-            top = start + ask(count, nPlace - 1);
+            int count = account.top - start;
+            account.ask(count, place, isOutermost());
             account.release(count);
-            giveAgain(first, nPlace - 1, start);
         }
 
         /** What was given from start on is given again by each AGAIN ahead of the item, the nearest one first. */
-        private void giveAgain(int first, int place, int start) {
+        private void giveAgain() {
             for (int again = place - 1; again >= first && !account.failed(); again--) {
-                int block = top - start;
+                int block = account.top - start;
                 giveFromBefore(block, block * timesMore(stream.byteAt(again)), again);
             }
         }
 
-        private void giveFromBefore(int distance, int count, int place) {
-            int allowed = ask(count, place);
+        private void giveFromBefore(int distance, int count, int itemPlace) {
+            int allowed = account.ask(count, itemPlace, isOutermost());
             for (int i = 0; i < allowed; i++) {
-                account.change(top, account.byteAt(top - distance));
-                top++;
+                account.push(account.byteAt(account.top - distance));
             }
-        }
-
-        /** How many of so many bytes may be given; they are charged, and the first that may not is the fault. */
-        private int ask(int count, int place) {
-            int allowed = Math.min(count, account.room(isOutermost()));
-            account.charge(allowed, isOutermost());
-            if (allowed < count) {
-                account.fail(account.tightBound(), place);
-            }
-            return allowed;
         }
     }
 
@@ -707,7 +714,6 @@ public final class PackDrawer {
         private int end;
         private int blamed;
         private int next;
-        private int top;
 
         PlainReader(Stream read, Account kept) {
             stream = read;
@@ -717,7 +723,6 @@ public final class PackDrawer {
         void read(int output, int held, int steps) {
             account.start(output, held, steps);
             next = 0;
-            top = 0;
             end = stream.count();
             blamed = stream.count();
             readPack(1);
@@ -728,7 +733,7 @@ public final class PackDrawer {
 
         private void readPack(int depth) {
             account.reachDepth(depth);
-            int base = top;
+            int base = account.top;
             boolean goesOn = true;
             for (int i = 0; i <= MOST_BYTES && goesOn; i++) {
                 goesOn = readItem(depth, base);
@@ -746,12 +751,24 @@ public final class PackDrawer {
                 return false;
             }
             int place = next - 1;
-            if (sortOf(t) == END_ITEM) {
-                readEnd(first, place, depth, base);
-                return false;
+            int start = account.top;
+            switch (sortOf(t)) {
+                case END_ITEM:
+                    readEnd(first, place, depth, base);
+                    return false;
+                case COPY_ITEM:
+                    readCopy(t, place, depth, base);
+                    break;
+                case INNER_ITEM:
+                    readInner(place, depth);
+                    break;
+                case WIDE_ITEM:
+                    readWide(place, depth);
+                    break;
+                default:
+                    readRaw(t, place, depth);
+                    break;
             }
-            int start = top;
-            readBody(t, place, depth, base);
             for (int again = place - 1; again >= first; again--) {
                 giveAgain(again, start, depth);
             }
@@ -771,29 +788,16 @@ public final class PackDrawer {
             if (place > first) {
                 account.fail(NOT, place);
             }
-            int told = take(depth);
-            if (told != account.sum(base, top)) {
+            int sum = take(depth);
+            if (sum != account.sumFrom(base)) {
                 account.fail(SUM, next - 1);
             }
         }
 
-        private void readBody(int t, int place, int depth, int base) {
-            switch (sortOf(t)) {
-                case COPY_ITEM:
-                    readCopy(t, place, depth, base);
-                    break;
-                case INNER_ITEM:
-                    readInner(place, depth);
-                    break;
-                case WIDE_ITEM:
-                    int high = take(depth);
-                    int low = take(depth);
-                    readRaw(high * 256 + low, place, depth);
-                    break;
-                default:
-                    readRaw(t, place, depth);
-                    break;
-            }
+        private void readWide(int place, int depth) {
+            int high = take(depth);
+            int low = take(depth);
+            readRaw(high * 256 + low, place, depth);
         }
 
         /** All is taken before any of it is given: a byte that is missing comes ahead of the bounds. */
@@ -803,17 +807,17 @@ public final class PackDrawer {
                 take(depth);
             }
             for (int i = 0; i < count && !account.failed(); i++) {
-                give(stream.byteAt(from + i), place, depth);
+                account.give(stream.byteAt(from + i), place, depth == 1);
             }
         }
 
         private void readCopy(int t, int place, int depth, int base) {
             int distance = take(depth) + 1;
-            if (top - distance < base) {
+            if (account.top - distance < base) {
                 account.fail(BACK, next - 1);
             }
             for (int i = 0; i < copyCount(t) && !account.failed(); i++) {
-                give(account.byteAt(top - distance), place, depth);
+                account.give(account.byteAt(account.top - distance), place, depth == 1);
             }
         }
 
@@ -830,7 +834,7 @@ public final class PackDrawer {
             }
             int outerEnd = end;
             int outerBlamed = blamed;
-            int start = top;
+            int start = account.top;
             end = next + n;
             blamed = place + 1;
             readPack(depth + 1);
@@ -843,18 +847,18 @@ public final class PackDrawer {
         }
 
         private void giveInner(int start, int place, int depth) {
-            int count = top - start;
-            top = start;
+            int count = account.top - start;
+            account.top = start;
             for (int i = 0; i < count && !account.failed(); i++) {
-                give(account.byteAt(start + i), place, depth);
+                account.give(account.byteAt(start + i), place, depth == 1);
             }
             account.release(count);
         }
 
         private void giveAgain(int again, int start, int depth) {
-            int count = (top - start) * timesMore(stream.byteAt(again));
+            int count = (account.top - start) * timesMore(stream.byteAt(again));
             for (int i = 0; i < count && !account.failed(); i++) {
-                give(account.byteAt(start + i), again, depth);
+                account.give(account.byteAt(start + i), again, depth == 1);
             }
         }
 
@@ -868,13 +872,6 @@ public final class PackDrawer {
             }
             next++;
             return stream.byteAt(next - 1);
-        }
-
-        private void give(int v, int place, int depth) {
-            if (!account.failed() && account.chargeOne(place, depth == 1)) {
-                account.change(top, v);
-                top++;
-            }
         }
     }
 
