@@ -172,7 +172,7 @@ public final class PackDrawer {
     }
 
     public int given(int i) {
-        return i >= 0 && i < latest.output ? latest.byteAt(i) : NONE;
+        return i >= 0 && i < latest.output ? latest.row.byteAt(i) : NONE;
     }
 
     public int shorter(int output, int held, int steps) {
@@ -355,12 +355,55 @@ public final class PackDrawer {
         }
     }
 
+    /**
+     * The bytes that the open packs gave, the outermost one's first. An inner pack's begin where
+     * the outer one's next byte will stand: so they lie in place when that one gives them.
+     */
+    private static final class Row {
+        private final int[] cells = new int[MOST_HELD];
+        private int top;
+
+        int top() {
+            return top;
+        }
+
+        void backTo(int start) {
+            if (start >= 0 && start < top) {
+                top = start;
+            }
+        }
+
+        void push(int v) {
+            if (top < cells.length) {
+                cells[top] = v;
+                top++;
+            }
+        }
+
+        /** Also a byte that stands above the top, until another one is pushed there. */
+        int byteAt(int i) {
+            return i >= 0 && i < cells.length ? cells[i] : 0;
+        }
+
+        /** One by one, so that a byte may come from one that was copied just now. */
+        void copyFromBefore(int distance, int count) {
+            for (int i = 0; i < count; i++) {
+                push(byteAt(top - distance));
+            }
+        }
+
+        int sumFrom(int base) {
+            int sum = 0;
+            for (int i = base; i < top; i++) {
+                sum += byteAt(i);
+            }
+            return sum & LOW_BYTE;
+        }
+    }
+
     /** What one opening may do, what it did, and what the packs in it gave. */
     private static final class Account {
-        // The bytes of the open packs, the outermost one's first. An inner pack's bytes begin
-        // where the outer one's next byte will stand: so they lie in place when it gives them.
-        private final int[] row = new int[MOST_HELD];
-        private int top;
+        private final Row row = new Row();
         private int outputBound;
         private int heldBound;
         private int stepsBound;
@@ -377,7 +420,7 @@ public final class PackDrawer {
             outputBound = mostOutput;
             heldBound = mostHeldAtOnce;
             stepsBound = mostSteps;
-            top = 0;
+            row.backTo(0);
             kind = SOUND;
             place = NONE;
             steps = 0;
@@ -463,31 +506,12 @@ public final class PackDrawer {
                 fail(OUTPUT, itemPlace);
             } else {
                 charge(1, outermost);
-                push(v);
+                row.push(v);
             }
         }
 
         void release(int count) {
             held -= count;
-        }
-
-        void push(int v) {
-            if (top < row.length) {
-                row[top] = v;
-                top++;
-            }
-        }
-
-        int byteAt(int i) {
-            return i >= 0 && i < row.length ? row[i] : 0;
-        }
-
-        int sumFrom(int base) {
-            int sum = 0;
-            for (int i = Math.max(base, 0); i < top && i < row.length; i++) {
-                sum += row[i];
-            }
-            return sum & LOW_BYTE;
         }
     }
 
@@ -498,6 +522,7 @@ public final class PackDrawer {
     private static final class AheadReader {
         private final Stream stream;
         private final Account account;
+        private final Row row;
         // Of the open pack at each depth: where its bytes begin in the account's row; the place behind
         // its last one; the place that is told when a byte is missing; the place where its item began,
         // which is the first AGAIN ahead of the INNER if there is one.
@@ -516,6 +541,7 @@ public final class PackDrawer {
         AheadReader(Stream read, Account kept) {
             stream = read;
             account = kept;
+            row = kept.row;
         }
 
         /** The verdict: the kind of the fault, or SOUND. */
@@ -536,7 +562,7 @@ public final class PackDrawer {
                 return;
             }
             depth++;
-            base[depth] = account.top;
+            base[depth] = row.top();
             end[depth] = packEnd;
             blamed[depth] = blamedPlace;
             origin[depth] = originPlace;
@@ -557,23 +583,23 @@ public final class PackDrawer {
                 return;
             }
             place = next - 1;
-            start = account.top;
+            start = row.top();
             switch (sortOf(t)) {
                 case END_ITEM:
                     readEnd();
                     break;
                 case INNER_ITEM:
+                    // It gives nothing until its pack has ended.
                     readInner();
-                    break;
+                    return;
                 case COPY_ITEM:
                     readCopy(t);
-                    giveAgain();
                     break;
                 default:
                     readRaw(t);
-                    giveAgain();
                     break;
             }
+            giveAgain();
         }
 
         /** The byte that an item begins with, behind its step; END's behind a fault. */
@@ -608,7 +634,7 @@ public final class PackDrawer {
             }
             int allowed = account.ask(count, place, isOutermost());
             for (int i = 0; i < allowed; i++) {
-                account.push(stream.byteAt(next + i));
+                row.push(stream.byteAt(next + i));
             }
             next += count;
         }
@@ -618,7 +644,7 @@ public final class PackDrawer {
                 return;
             }
             int distance = stream.byteAt(next) + 1;
-            if (distance > account.top - base[depth]) {
+            if (distance > row.top() - base[depth]) {
                 account.fail(BACK, next);
                 return;
             }
@@ -651,7 +677,7 @@ public final class PackDrawer {
             if (!stand(1)) {
                 return;
             }
-            if (stream.byteAt(next) != account.sumFrom(base[depth])) {
+            if (stream.byteAt(next) != row.sumFrom(base[depth])) {
                 account.fail(SUM, next);
                 return;
             }
@@ -660,7 +686,6 @@ public final class PackDrawer {
                 leaveOutermost();
             } else {
                 leaveInner();
-                giveAgain();
             }
         }
 
@@ -682,7 +707,7 @@ public final class PackDrawer {
             place = nPlace - 1;
             start = base[depth];
             depth--;
-            int count = account.top - start;
+            int count = row.top() - start;
             account.ask(count, place, isOutermost());
             account.release(count);
         }
@@ -690,16 +715,13 @@ public final class PackDrawer {
         /** What was given from start on is given again by each AGAIN ahead of the item, the nearest one first. */
         private void giveAgain() {
             for (int again = place - 1; again >= first && !account.failed(); again--) {
-                int block = account.top - start;
+                int block = row.top() - start;
                 giveFromBefore(block, block * timesMore(stream.byteAt(again)), again);
             }
         }
 
         private void giveFromBefore(int distance, int count, int itemPlace) {
-            int allowed = account.ask(count, itemPlace, isOutermost());
-            for (int i = 0; i < allowed; i++) {
-                account.push(account.byteAt(account.top - distance));
-            }
+            row.copyFromBefore(distance, account.ask(count, itemPlace, isOutermost()));
         }
     }
 
@@ -710,6 +732,7 @@ public final class PackDrawer {
     private static final class PlainReader {
         private final Stream stream;
         private final Account account;
+        private final Row row;
         // Of the innermost open pack: the place behind its last byte, and the place told when one is missing.
         private int end;
         private int blamed;
@@ -718,6 +741,7 @@ public final class PackDrawer {
         PlainReader(Stream read, Account kept) {
             stream = read;
             account = kept;
+            row = kept.row;
         }
 
         void read(int output, int held, int steps) {
@@ -733,7 +757,7 @@ public final class PackDrawer {
 
         private void readPack(int depth) {
             account.reachDepth(depth);
-            int base = account.top;
+            int base = row.top();
             boolean goesOn = true;
             for (int i = 0; i <= MOST_BYTES && goesOn; i++) {
                 goesOn = readItem(depth, base);
@@ -751,7 +775,7 @@ public final class PackDrawer {
                 return false;
             }
             int place = next - 1;
-            int start = account.top;
+            int start = row.top();
             switch (sortOf(t)) {
                 case END_ITEM:
                     readEnd(first, place, depth, base);
@@ -789,7 +813,7 @@ public final class PackDrawer {
                 account.fail(NOT, place);
             }
             int sum = take(depth);
-            if (sum != account.sumFrom(base)) {
+            if (sum != row.sumFrom(base)) {
                 account.fail(SUM, next - 1);
             }
         }
@@ -813,11 +837,11 @@ public final class PackDrawer {
 
         private void readCopy(int t, int place, int depth, int base) {
             int distance = take(depth) + 1;
-            if (account.top - distance < base) {
+            if (row.top() - distance < base) {
                 account.fail(BACK, next - 1);
             }
             for (int i = 0; i < copyCount(t) && !account.failed(); i++) {
-                account.give(account.byteAt(account.top - distance), place, depth == 1);
+                account.give(row.byteAt(row.top() - distance), place, depth == 1);
             }
         }
 
@@ -834,7 +858,7 @@ public final class PackDrawer {
             }
             int outerEnd = end;
             int outerBlamed = blamed;
-            int start = account.top;
+            int start = row.top();
             end = next + n;
             blamed = place + 1;
             readPack(depth + 1);
@@ -847,18 +871,18 @@ public final class PackDrawer {
         }
 
         private void giveInner(int start, int place, int depth) {
-            int count = account.top - start;
-            account.top = start;
+            int count = row.top() - start;
+            row.backTo(start);
             for (int i = 0; i < count && !account.failed(); i++) {
-                account.give(account.byteAt(start + i), place, depth == 1);
+                account.give(row.byteAt(start + i), place, depth == 1);
             }
             account.release(count);
         }
 
         private void giveAgain(int again, int start, int depth) {
-            int count = (account.top - start) * timesMore(stream.byteAt(again));
+            int count = (row.top() - start) * timesMore(stream.byteAt(again));
             for (int i = 0; i < count && !account.failed(); i++) {
-                account.give(account.byteAt(start + i), again, depth == 1);
+                account.give(row.byteAt(start + i), again, depth == 1);
             }
         }
 
@@ -885,9 +909,7 @@ public final class PackDrawer {
         private static final int MOST_DISTANCE = 256;
 
         private final Stream stream;
-        // What the packs that are being drawn gave, for their sums; as in an account's row.
-        private final int[] row = new int[MOST_HELD];
-        private int top;
+        private final Row row = new Row();
         private long state;
         private int byteSort;
         private int packSize;
@@ -898,7 +920,7 @@ public final class PackDrawer {
 
         void drawStream(long seed, int sort, int size) {
             stream.keep(0);
-            top = 0;
+            row.backTo(0);
             state = seed;
             byteSort = sort;
             packSize = size;
@@ -915,7 +937,7 @@ public final class PackDrawer {
         }
 
         private void drawPack(int depth) {
-            int base = top;
+            int base = row.top();
             int most = 1 + pick(packSize);
             for (int i = 0; i < most && stream.count() < ENOUGH_BYTES; i++) {
                 drawItem(base, depth);
@@ -924,7 +946,7 @@ public final class PackDrawer {
         }
 
         private void drawItem(int base, int depth) {
-            int gave = top - base;
+            int gave = row.top() - base;
             int w = pick(8);
             if ((w == 3 || w == 4) && gave > 0) {
                 drawCopy(gave);
@@ -944,16 +966,16 @@ public final class PackDrawer {
             int less = pick(Math.min(gave, MOST_DISTANCE));
             stream.append(COPY_T + more);
             stream.append(less);
-            giveFromBefore(less + 1, LEAST_COPY + more);
+            row.copyFromBefore(less + 1, LEAST_COPY + more);
         }
 
         private void drawAgain() {
             int more = pick(4);
             stream.append(AGAIN_T + more);
-            int start = top;
+            int start = row.top();
             drawRaw();
-            int block = top - start;
-            giveFromBefore(block, block * timesMore(AGAIN_T + more));
+            int block = row.top() - start;
+            row.copyFromBefore(block, block * timesMore(AGAIN_T + more));
         }
 
         private void drawInner(int depth) {
@@ -988,34 +1010,13 @@ public final class PackDrawer {
                     v = 97 + pick(3);
                 }
                 stream.append(v);
-                give(v);
+                row.push(v);
             }
         }
 
         private void drawEnd(int base) {
-            int sum = 0;
-            for (int i = base; i < top; i++) {
-                sum += byteAt(i);
-            }
             stream.append(END_T);
-            stream.append(sum & LOW_BYTE);
-        }
-
-        private void giveFromBefore(int distance, int count) {
-            for (int i = 0; i < count; i++) {
-                give(byteAt(top - distance));
-            }
-        }
-
-        private int byteAt(int i) {
-            return i >= 0 && i < row.length ? row[i] : 0;
-        }
-
-        private void give(int v) {
-            if (top < row.length) {
-                row[top] = v;
-                top++;
-            }
+            stream.append(row.sumFrom(base));
         }
     }
 }

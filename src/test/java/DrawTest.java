@@ -20,9 +20,10 @@ final class DrawTest {
             check.due(call, x.draw(seed, i % 3, 1 + i % 5), model.draw(seed, i % 3, 1 + i % 5));
             check.bytes(call, x, model.stream.stream().mapToInt(v -> v).toArray());
         }
-        for (long seed : new long[] {Long.MIN_VALUE, -1, Long.MAX_VALUE}) {
+        // By 1918 and 3036 a stream has just 100 bytes where another item could come.
+        for (long seed : new long[] {Long.MIN_VALUE, -1, Long.MAX_VALUE, 1918, 3036}) {
             PackDrawer x = new PackDrawer();
-            check.due("draw(" + seed + ")", x.draw(seed, 2, 5), model.draw(seed, 2, 5));
+            check.due("draw(" + seed + ")", x.draw(seed, 1, 5), model.draw(seed, 1, 5));
             check.bytes("draw(" + seed + ")", x, model.stream.stream().mapToInt(v -> v).toArray());
         }
     }

@@ -1,3 +1,5 @@
+import java.util.Arrays;
+
 /** Promise 14: shorter. */
 final class ShorterTest {
     public static void main(String[] args) {
@@ -9,6 +11,10 @@ final class ShorterTest {
         one(check, new int[] {400, 800, 1500}, 3, new int[] {5, 5, 5});
         one(check, new int[] {0, 800, 1500}, 4, new int[] {1, 9, 1, 8, 0, 17}, 1, 17);
         one(check, new int[] {0, 0, 0}, 3, new int[] {1, 9, 0, 9}, 9);
+        int[] full = new int[160];
+        Arrays.fill(full, 63);
+        full[159] = 9;
+        one(check, new int[] {0, 800, 1500}, 96, full, Arrays.copyOfRange(full, 96, 160));
         toldStays(check);
         wrongNumbers(check);
         check.end();
