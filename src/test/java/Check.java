@@ -1,8 +1,10 @@
-/** Counts and prints the answers that are not as due. */
+/** Counts and prints the answers that are not as due, each with the sentence of the document that asks for it. */
 final class Check {
     private static final int MOST_PRINTED = 40;
 
     private final String name;
+    private String sentence = "";
+    private int sentences;
     private long asked;
     private int wrong;
 
@@ -10,12 +12,18 @@ final class Check {
         this.name = name;
     }
 
+    /** The document's words that the answers behind this are about. */
+    void sentence(String words) {
+        sentence = " [" + words + "]";
+        sentences++;
+    }
+
     void due(String call, long got, long want) {
         asked++;
         if (got != want) {
             wrong++;
             if (wrong <= MOST_PRINTED) {
-                System.out.println(name + ": " + call + " answered " + got + ", due is " + want);
+                System.out.println(name + sentence + ": " + call + " answered " + got + ", due is " + want);
             }
         }
     }
@@ -47,16 +55,14 @@ final class Check {
         due(what + " given(" + want.length + ")", x.given(want.length), PackDrawer.NONE);
     }
 
-    static PackDrawer of(int... bytes) {
-        PackDrawer x = new PackDrawer();
-        for (int v : bytes) {
-            x.put(v);
-        }
-        return x;
+    void nothingOpened(String what, PackDrawer x) {
+        told(what, x, -1, -1, 0, 0, 0, 0, 0);
+        given(what, x);
     }
 
     void end() {
-        System.out.println(name + ": " + asked + " answers, " + wrong + " not as due");
+        System.out.println(name + ": " + asked + " answers" + (sentences == 0 ? "" : " to " + sentences + " sentences")
+            + ", " + wrong + " not as due");
         if (wrong != 0) {
             System.exit(1);
         }
