@@ -68,15 +68,12 @@ final class Openings {
     private void wrongBounds() {
         sentence("bounds (OUTPUT 0 .. 400, HELD 0 .. 800, STEPS 0 .. 1500); BAD; then nothing changes");
         PackDrawer x = Streams.of(1, 5, 0, 5);
-        int[][] wrong = {{-1, 0, 0}, {401, 0, 0}, {0, -1, 0}, {0, 801, 0}, {0, 0, -1}, {0, 0, 1501}, {401, 800, 1500},
-            {400, 801, 1500}, {400, 800, 1501}, {Integer.MIN_VALUE, 0, 0}, {Integer.MAX_VALUE, 0, 0},
-            {0, Integer.MIN_VALUE, 0}, {0, Integer.MAX_VALUE, 0}, {0, 0, Integer.MIN_VALUE}, {0, 0, Integer.MAX_VALUE}};
-        for (int[] bounds : wrong) {
+        for (int[] bounds : Streams.wrongBounds()) {
             check.due(Arrays.toString(bounds), read(x, bounds), PackDrawer.BAD);
             check.nothingOpened("behind BAD", x);
         }
         check.due("the greatest bounds", read(x, GREATEST), 1);
-        for (int[] bounds : wrong) {
+        for (int[] bounds : Streams.wrongBounds()) {
             check.due(Arrays.toString(bounds), read(x, bounds), PackDrawer.BAD);
             check.told("behind BAD", x, -1, -1, 3, 1, 1, 1, 2);
             check.given("behind BAD", x, 5);

@@ -139,10 +139,7 @@ final class Promise14ShorterTest {
     private void wrongBounds() {
         check.sentence("bounds as open() has them; BAD");
         PackDrawer x = Streams.of(5, 5, 5);
-        int[][] wrong = {{-1, 0, 0}, {401, 0, 0}, {0, -1, 0}, {0, 801, 0}, {0, 0, -1}, {0, 0, 1501}, {401, 800, 1500},
-            {400, 801, 1500}, {400, 800, 1501}, {Integer.MIN_VALUE, 0, 0}, {Integer.MAX_VALUE, 0, 0},
-            {0, Integer.MIN_VALUE, 0}, {0, Integer.MAX_VALUE, 0}, {0, 0, Integer.MIN_VALUE}, {0, 0, Integer.MAX_VALUE}};
-        for (int[] bounds : wrong) {
+        for (int[] bounds : Streams.wrongBounds()) {
             check.due("shorter" + Arrays.toString(bounds), x.shorter(bounds[0], bounds[1], bounds[2]), PackDrawer.BAD);
             check.bytes("behind BAD", x, 5, 5, 5);
         }

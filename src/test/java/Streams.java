@@ -2,8 +2,6 @@ import java.util.Arrays;
 
 /** Streams that the tests need, and objects that hold them. */
 final class Streams {
-    static final int MOST_BYTES = 160;
-
     private Streams() {
     }
 
@@ -75,5 +73,12 @@ final class Streams {
     static int[] fifteenHundredSteps() {
         int[] items = row(166, 6, 0, 0, 0, 0, 0, 0, 3, 0, 0, 0, 1, 0, 1, 0, 1, 0, 1, 0);
         return nested(5, pack(items, 0), 0);
+    }
+
+    /** Bounds of OUTPUT, HELD and STEPS, one of them too small or too large. */
+    static int[][] wrongBounds() {
+        return new int[][] {{-1, 0, 0}, {401, 0, 0}, {0, -1, 0}, {0, 801, 0}, {0, 0, -1}, {0, 0, 1501},
+            {401, 800, 1500}, {400, 801, 1500}, {400, 800, 1501}, {Integer.MIN_VALUE, 0, 0}, {Integer.MAX_VALUE, 0, 0},
+            {0, Integer.MIN_VALUE, 0}, {0, Integer.MAX_VALUE, 0}, {0, 0, Integer.MIN_VALUE}, {0, 0, Integer.MAX_VALUE}};
     }
 }
