@@ -186,6 +186,9 @@ final class OpeningFaults {
         openings.fault(NOT, row(1, 3, 128, 129, 0, 9), row(4, 5, 1, 1, 1, 4), 3);
         openings.fault(NOT, row(192, 3, 191, 0, 0, 0, 0), row(3, 3, 0, 0, 2, 3));
         openings.fault(NOT, row(192, 2, 191, 0, 0, 0), row(3, 3, 0, 0, 2, 3));
+        // Its SUM would be right, but the pack does not end there.
+        openings.fault(NOT, row(192, 5, 1, 5, 128, 0, 5, 0, 5), row(5, 5, 1, 0, 2, 4));
+        openings.fault(NOT, row(1, 5, 128, 0, 5), row(3, 4, 1, 1, 1, 3), 5);
         openings.fault(NOT, Streams.joined(Streams.times(159, 128), row(0)), row(159, 160, 0, 0, 1, 160));
     }
 }
